@@ -8,6 +8,7 @@ public final class CardsTest {
 
     public static void main(String[] args) {
         has();
+        hasUpToTen();
         whyByRuleAndGrade();
         whyByLicenceAndAge();
         whyByDays();
@@ -71,6 +72,15 @@ public final class CardsTest {
         }
     }
 
+    private static void hasUpToTen() {
+        BeltHall x = hall();
+        for (int g = 1; g <= 10; g++) {
+            due.is("13: one grade more", x.give(0, 2, g, g, PANEL), g - 1);
+            due.is("10: one grade more", x.has(0, 2, g, g), g);
+            due.is("10: not in another union", x.has(0, 1, g, g), 0);
+        }
+    }
+
     private static void whyByRuleAndGrade() {
         BeltHall x = hall();
         int[][] beyond = {{-1, 0, 1, 0}, {6, 0, 1, 0}, {0, -1, 1, 0}, {0, 3, 1, 0}, {0, 0, 0, 0}, {0, 0, 11, 0},
@@ -129,6 +139,11 @@ public final class CardsTest {
         due.is("11: entries of later days don't count", x.why(0, 1, 1, 999), 0);
         due.is("11: a child, half of these, cut", x.why(5, 0, 2, 1049), 5);
         due.is("11: a child, half of these, cut", x.why(5, 0, 2, 1050), 0);
+        BeltHall y = hall();
+        y.rule(2, 0, 20, 0, 0);
+        y.give(0, 0, 1, 0, PANEL);
+        due.is("11: an entry of the first day", y.why(0, 0, 2, 19), 5);
+        due.is("11: an entry of the first day", y.why(0, 0, 2, 20), 0);
         x.rule(2, 0, 101, 2000, 0);
         due.is("11: age ahead of days", x.why(0, 0, 2, 1100), 4);
     }
@@ -244,6 +259,7 @@ public final class CardsTest {
         due.is("13: the panel may not", x.give(0, 0, 1, 10, 6), Due.STATE);
         due.is("13: none came", x.count(2), 0);
         due.is("13: the first", x.give(0, 0, 1, 10, PANEL), 0);
+        due.is("13: ahead of the only one", x.give(5, 0, 1, 9, PANEL), Due.BEYOND);
         due.is("13: the next of the same day", x.give(0, 0, 2, 10, PANEL), 1);
         due.is("13: ahead of the latest", x.give(5, 0, 1, 9, PANEL), Due.BEYOND);
         due.is("13: a child", x.give(5, 0, 1, 11, PANEL), 2);
@@ -279,8 +295,11 @@ public final class CardsTest {
         due.is("13: state ahead of full", x.give(0, 0, 2, 4, PANEL), Due.STATE);
         due.is("13: beyond ahead of full", x.give(0, 0, 1, 3, PANEL), Due.BEYOND);
         due.is("14: the last", x.entry(59, 0), 19);
+        due.is("28: sixty stand, none were told", x.check(0), 1);
+        due.is("15: the last stands", x.stands(59, 30000), 1);
         x.way(0, 1);
         due.is("16: all fall", x.strike(1, 0, 0), 60);
+        due.is("28: none stand, none were told", x.check(0), 0);
     }
 
     private static void entry() {

@@ -95,6 +95,9 @@ public final class DayTest {
         for (int i = 6; i < 10; i++) {
             y.wait(i);
         }
+        for (int i = 10; i < 20; i++) {
+            y.person(0, 0, 7);
+        }
         due.is("20: six examiners", y.best(0, 0, 1), 2);
         panels("20: six examiners", y, 7, 56, 0, 0);
         due.is("20: six examiners twice", y.best(0, 0, 2), 4);

@@ -8,6 +8,7 @@ public final class MarksTest {
         middles();
         apart();
         hardness();
+        twentyExams();
         due.end();
     }
 
@@ -120,5 +121,28 @@ public final class MarksTest {
         due.is("26: a child", x.hard(7), Due.KIND);
         due.is("26: beyond", x.hard(8), Due.BEYOND);
         due.is("26: beyond", x.hard(-1), Due.BEYOND);
+    }
+
+    /** All exams have five marks: each by itself, whatever the next one holds. */
+    private static void twentyExams() {
+        BeltHall x = hall();
+        for (int i = 0; i < 20; i++) {
+            x.exam();
+            for (int p = 0; p < 5; p++) {
+                due.is("23: mark", x.mark(i, p, 96 - 4 * i + p), p + 1);
+            }
+        }
+        for (int i = 0; i < 20; i++) {
+            due.is("24: middle(" + i + ")", x.middle(i), 98 - 4 * i);
+            due.is("25: apart(" + i + ")", x.apart(i, 1), 2);
+        }
+        due.is("23: full", x.mark(19, 5, 0), Due.FULL);
+        due.is("23: its own", x.mark(19, 4, 0), 5);
+        due.is("24: the last", x.middle(19), 21);
+        for (int p = 0; p < 4; p++) {
+            due.is("26: over twenty", x.hard(p), 19 * (p - 2) + p - 1);
+        }
+        due.is("26: over twenty", x.hard(4), 19 * 2 - 21);
+        due.is("26: without", x.hard(5), 0);
     }
 }

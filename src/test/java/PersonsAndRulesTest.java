@@ -16,6 +16,7 @@ public final class PersonsAndRulesTest {
         rules();
         rulesAreFull();
         inForce();
+        firstRuleIsLatest();
         due.end();
     }
 
@@ -208,10 +209,21 @@ public final class PersonsAndRulesTest {
         due.is("9: another grade", x.force(1, 6, 49), 4);
         due.is("9: another union", x.force(2, 5, 49), 5);
         due.is("9: no rule", x.force(0, 5, 30000), Due.NONE);
+        x.rule(7, 100, 0, 0, 0);
+        x.rule(7, 50, 0, 0, 0);
+        due.is("9: told first, of the later day", x.force(0, 7, 100), 6);
         int[][] beyond = {{-1, 5, 0}, {3, 5, 0}, {1, 0, 0}, {1, 11, 0}, {1, 5, -1}, {1, 5, 30001}, {0, 105, 100}};
         for (int[] b : beyond) {
             due.is("9: beyond", x.force(b[0], b[1], b[2]), Due.BEYOND);
         }
         due.is("9: none were told", x.found(2), 2);
+    }
+
+    private static void firstRuleIsLatest() {
+        BeltHall x = new BeltHall();
+        x.rule(1, 100, 0, 0, 0);
+        x.rule(1, 50, 0, 0, 0);
+        due.is("9: rule 0 is of the later day", x.force(0, 1, 100), 0);
+        due.is("9: rule 1 is in force ahead of it", x.force(0, 1, 99), 1);
     }
 }
