@@ -102,6 +102,9 @@ public final class DayTest {
         panels("20: six examiners", y, 7, 56, 0, 0);
         due.is("20: six examiners twice", y.best(0, 0, 2), 4);
         panels("20: six examiners twice", y, 7, 7, 56, 56);
+        y.licence(5, 0);
+        due.is("20: five examiners twice", y.best(0, 1, 2), 3);
+        panels("20: five examiners twice", y, 7, 11, 28, 0);
         due.is("20: six examiners thrice", y.best(0, 0, 3), 4);
         panels("20: six examiners thrice", y, 7, 7, 7, 56);
     }
