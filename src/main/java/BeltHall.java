@@ -412,7 +412,7 @@ public final class BeltHall {
         return isWithin(kind, PUPIL, CHILD);
     }
 
-    /** Who is known to the books. */
+    /** Who is known to the hall. */
     private static final class Persons {
         final int[] kind = new int[MOST_PERSONS];
         final int[] born = new int[MOST_PERSONS];
