@@ -52,6 +52,7 @@ public final class TermsTest {
         bestIsTheMost();
         bestIsTheLesserAsBits();
         bestByLoad();
+        bestOnceMore();
         bestOfThoseThatMay();
         noGradeAboveTheTenth();
         middleIsTheThird();
@@ -290,6 +291,10 @@ public final class TermsTest {
 
     // "in the order in which they came (DAYS never fall)"
     private static void daysNeverFall() {
+        BeltHall y = hall();
+        y.give(0, 0, 1, 7, PANEL);
+        due.is("the day ahead of the only one", y.give(7, 0, 1, 6, PANEL), Due.BEYOND);
+        due.is("the day of the only one", y.give(7, 0, 1, 7, PANEL), 1);
         BeltHall x = hall();
         due.is("day 0", x.give(0, 0, 1, 0, PANEL), 0);
         due.is("day 0 again", x.give(7, 0, 1, 0, PANEL), 1);
@@ -788,6 +793,20 @@ public final class TermsTest {
         given("six examiners, load 1", x, 7, 56, 0, 0);
         due.is("six examiners, load 2", x.best(0, 0, 2), 4);
         given("six examiners, load 2", x, 7, 7, 56, 56);
+    }
+
+    /** What best() found ahead takes nobody's time. */
+    private static void bestOnceMore() {
+        BeltHall x = day(new int[] {0, 1, 2, 3, 4, 5}, filled(4, 7));
+        int[][] want = {{7, 56, 0, 0}, {7, 7, 56, 56}, {7, 7, 7, 56}, {7, 7, 7, 7}};
+        for (int load = 1; load <= 4; load++) {
+            for (int time = 0; time < 3; time++) {
+                due.is("load " + load + " once more", x.best(0, 0, load), Math.min(4, 2 * load));
+                given("load " + load + " once more", x, want[load - 1]);
+            }
+        }
+        due.is("load 1 behind load 4", x.best(0, 0, 1), 2);
+        given("load 1 behind load 4", x, want[0]);
     }
 
     private static int[] filled(int n, int with) {
