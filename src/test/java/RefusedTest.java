@@ -9,7 +9,7 @@ import java.util.List;
  */
 public final class RefusedTest {
     private static final Due due = new Due("RefusedTest");
-    /** An object is used for 512 calls; the full hall takes 287, a refused one 1, and the findings 5. */
+    /** An object is used for 512 calls; the full hall takes 286, a refused call 1, and the findings 5. */
     private static final int CHUNK = 210;
     private static final int MIN = Integer.MIN_VALUE;
     private static final int MAX = Integer.MAX_VALUE;
